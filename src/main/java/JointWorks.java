@@ -12,7 +12,7 @@ public final class JointWorks {
     private static final int MOST_TOLD = 100, MOST_JOINED = 1000, MOST_TIMES = 3;
     private static final int TOLD = 0, VOTES = 1, RUNWAY = 2, GLOVES = 3, JOINED = 4;
     private static final int WEIGHT_BASE = 21, NEED_BASE = 51, MOST_QUOTA = 80;
-    private static final int TURNS = 0, EQUAL = 1;
+    private static final int TURNS = 0;
     private static final int GIVES = 0, LACKS = 1, SHARES = 2;
     private static final int ABOVE = 0, BELOW = 1;
     private static final int MOST_KEPT_BODIES = 40;

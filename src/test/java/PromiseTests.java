@@ -200,6 +200,22 @@ public final class PromiseTests {
         y.venture(3);
         due("unlike n where full", y.sum(0, 9, 1, 1), STATE);
         due("first twice", told(1, 9).sum(0, 0, 0, 0), 1);
+        sumEdges();
+    }
+
+    private static void sumEdges() {
+        JointWorks x = told(2, 100, 1, 0);
+        due("600", x.sum(0, 0, 3, 3), 1);
+        due("1000", x.sum(1, 0, 2, -2), 2);
+        due("1000 is", x.worth(2, 1), 1000);
+        x.set(0, 1, 1);
+        due("1001", x.sum(2, 0, 1, 1), FULL);
+        due("-1001", x.sum(2, 0, -1, -1), FULL);
+        due("1000 - 1", x.sum(2, 0, 1, -1), 3);
+        due("-1000", x.sum(2, 2, 0, -1), 4);
+        due("-1000 is", x.worth(4, 1), -1000);
+        due("-3 times", x.sum(0, 0, -3, -3), 5);
+        due("-3 times is", x.worth(5, 1), -6);
     }
 
     private static void drop() {
@@ -315,6 +331,8 @@ public final class PromiseTests {
         due("dummy alone", one.told(0, 5), 1);
         due("convex alone", one.told(0, 4), 1);
         due("spoils alone", one.told(0, 6), 1);
+        due("who adds 0 spoils nothing", told(2, 0, 0, 0).told(0, 6), 0);
+        due("two spoil", told(2, 3, 4, 2).told(0, 6), 2);
         due("dummy 1", told(2, 1, 2, 3).told(0, 5), 3);
         due("no dummy", told(2, 1, 2, 4).told(0, 5), 0);
         JointWorks third = told(3, 0, 0, 5, 2, 2, 2, 7);
@@ -523,6 +541,7 @@ public final class PromiseTests {
         due("like(0, 0, 2)", x.like(0, 0, 2), 0);
         x.set(0, 5, 8);
         due("like for one set alone", x.like(0, 0, 1), 0);
+        due("unlike for the empty set alone", told(2, 1, 2, 3).like(0, 0, 1), 0);
         due("a = b", x.like(0, 1, 1), BAD);
         due("a 3", x.like(0, 3, 1), BAD);
         due("b 3", x.like(0, 0, 3), BAD);
