@@ -31,26 +31,25 @@ public final class JointWorks {
     private static final int FREE_SETS = 8, FREE_PARTNERS = 3;
 
     /**
-     * The LEAN weights, which do not depend on worths: digit SET - 1 (base 16) is six times the
-     * weight of the SET, as their denominators are 1, 2 and 3. They stand in the order of their
-     * sets' bits, so that the first of like ones is THE BAR. A test works them out anew.
+     * The LEAN weights, which do not depend on worths. Each takes at most four sets, a byte for
+     * each: the set in its upper digit, six times the weight in its lower one, as weights are
+     * halves and thirds. They stand in the order of their sets' bits, so that the first of like
+     * ones is THE BAR. A test works them out anew.
      */
-    private static final int WHOLE_WEIGHT = 6;
+    private static final int WHOLE_WEIGHT = 6, MOST_LEAN_SETS = 4;
     private static final long[] LEAN_OF_ONE = {};
-    private static final long[] LEAN_OF_TWO = {0x66L};
-    private static final long[] LEAN_OF_THREE = {0x6066L, 0x6600L, 0x60060L, 0x600006L, 0x330300L};
+    private static final long[] LEAN_OF_TWO = {0x1626L};
+    private static final long[] LEAN_OF_THREE = {
+        0x162646L, 0x3646L, 0x2656L, 0x1666L, 0x335363L
+    };
     private static final long[] LEAN_OF_FOUR = {
-        0x00000060006066L, 0x00000060006600L, 0x00000060060060L, 0x00000060600006L,
-        0x00000060330300L, 0x00000066000000L, 0x00000600006060L, 0x00000600600000L,
-        0x00006000006006L, 0x00006000060000L, 0x00003300006300L, 0x00003303003000L,
-        0x00060000006000L, 0x00030030330000L, 0x00600000000066L, 0x00600000000600L,
-        0x00300300030060L, 0x00300303000030L, 0x00303000300006L, 0x00303003000003L,
-        0x00202204000000L, 0x00330000030030L, 0x00330000300003L, 0x00240000220000L,
-        0x00330003000000L, 0x06000000000060L, 0x03000030300300L, 0x03003000003300L,
-        0x03003000300003L, 0x04002000200200L, 0x03003003000000L, 0x03030000300000L,
-        0x60000000000006L, 0x30000030030300L, 0x30000300003300L, 0x30000300030030L,
-        0x40000200020200L, 0x30000303000000L, 0x30030000030000L, 0x33000000000300L,
-        0x22020002000000L
+        0x16264686L, 0x364686L, 0x265686L, 0x166686L, 0x33536386L, 0x7686L,
+        0x264696L, 0x6696L, 0x1646a6L, 0x56a6L, 0x334693a3L, 0x437393a3L,
+        0x46b6L, 0x536383b3L, 0x1626c6L, 0x36c6L, 0x265393c3L, 0x237393c3L,
+        0x1663a3c3L, 0x1373a3c3L, 0x7492a2c2L, 0x2353b3c3L, 0x1363b3c3L, 0x5262b4c2L,
+        0x73b3c3L, 0x26d6L, 0x336383d3L, 0x3343a3d3L, 0x1363a3d3L, 0x3262a2d4L,
+        0x73a3d3L, 0x63b3d3L, 0x16e6L, 0x335383e3L, 0x334393e3L, 0x235393e3L,
+        0x325292e4L, 0x7393e3L, 0x53b3e3L, 0x33d3e3L, 0x72b2d2e2L
     };
 
     private final Told[] ventures;
@@ -279,7 +278,7 @@ public final class JointWorks {
             return NO;
         }
         long weights = it.barWeights();
-        return lowest(it.excessAbove(weights), it.weightSum(weights), what);
+        return lowest(it.excessAbove(weights), weightSum(weights), what);
     }
 
     public long bar(int venture, int set, int what) {
@@ -576,9 +575,33 @@ public final class JointWorks {
         }
     }
 
-    /** Six times the weight that packed LEAN weights give to a set. */
+    /** The set that byte k of LEAN weights is of; 0 if that has none. */
+    private static int leanSet(long weights, int k) {
+        return (int) (weights >> 8 * k + 4) & 15;
+    }
+
+    /** Six times the weight in byte k of LEAN weights. */
+    private static int leanWeight(long weights, int k) {
+        return (int) (weights >> 8 * k) & 15;
+    }
+
+    /** Six times the weight that LEAN weights give to a set. */
     private static int weightOf(long weights, int set) {
-        return (int) (weights >> 4 * (set - 1)) & 15;
+        for (int k = 0; k < MOST_LEAN_SETS; k++) {
+            if (leanSet(weights, k) == set) {
+                return leanWeight(weights, k);
+            }
+        }
+        return 0;
+    }
+
+    /** Six times the sum of LEAN weights. */
+    private static int weightSum(long weights) {
+        int total = 0;
+        for (int k = 0; k < MOST_LEAN_SETS; k++) {
+            total += leanWeight(weights, k);
+        }
+        return total;
     }
 
     /** One of both numbers of a fraction in lowest terms; NO if there is no such number. */
@@ -609,6 +632,7 @@ public final class JointWorks {
         final int number;
         final int n;
         private final int[] worths;
+        private final int[] partsAbove;
         private final Core core;
         private boolean isCoreFound;
 
@@ -616,6 +640,7 @@ public final class JointWorks {
             this.number = number;
             this.n = n;
             worths = new int[MOST_SETS];
+            partsAbove = new int[MOST_PARTNERS];
             core = new Core();
             isCoreFound = false;
         }
@@ -795,20 +820,31 @@ public final class JointWorks {
         }
 
         final int lacksAbove(int way, int set) {
+            takeParts(way);
+            return lacksOfTaken(way, set);
+        }
+
+        private void takeParts(int way) {
+            for (int partner = 0; partner < n && partner < partsAbove.length; partner++) {
+                partsAbove[partner] = partAbove(way, partner);
+            }
+        }
+
+        /** What the parts that were taken last lack for a set, with partBelow() below the line. */
+        private int lacksOfTaken(int way, int set) {
             int lacking = worthOf(set) * partBelow(way);
-            for (int partner = 0; partner < n; partner++) {
-                if (bit(set, partner) == 1) {
-                    lacking -= partAbove(way, partner);
-                }
+            for (int partner = 0; partner < n && partner < partsAbove.length; partner++) {
+                lacking -= bit(set, partner) * partsAbove[partner];
             }
             return lacking;
         }
 
         final int worstSet(int way) {
+            takeParts(way);
             int found = NONE;
             int most = 0;
             for (int set = 1; set < all(); set++) {
-                int lacking = lacksAbove(way, set);
+                int lacking = lacksOfTaken(way, set);
                 if (found == NONE || lacking > most) {
                     found = set;
                     most = lacking;
@@ -817,7 +853,7 @@ public final class JointWorks {
             return found;
         }
 
-        /** The packed LEAN weights of THE BAR; 0 for one partner alone. */
+        /** The LEAN weights of THE BAR; 0 for one partner alone. */
         final long barWeights() {
             long[] lean = leanOf(n);
             long found = 0;
@@ -835,22 +871,13 @@ public final class JointWorks {
             return found;
         }
 
-        /** Six times what the worths by these weights are more than the worth of all. */
+        /** Six times what the worths by LEAN weights are more than the worth of all. */
         final int excessAbove(long weights) {
             int excess = -WHOLE_WEIGHT * worthOfAll();
-            for (int set = 1; set < all(); set++) {
-                excess += weightOf(weights, set) * worthOf(set);
+            for (int k = 0; k < MOST_LEAN_SETS; k++) {
+                excess += leanWeight(weights, k) * worthOf(leanSet(weights, k));
             }
             return excess;
-        }
-
-        /** Six times the sum of these weights. */
-        final int weightSum(long weights) {
-            int total = 0;
-            for (int set = 1; set < all(); set++) {
-                total += weightOf(weights, set);
-            }
-            return total;
         }
     }
 
@@ -1002,6 +1029,9 @@ public final class JointWorks {
         void lookFor(Told venture) {
             cornerCount = 0;
             takeEnds(venture);
+            if (!haveEndsRoom()) {
+                return;
+            }
             for (int a = 1; a < FREE_SETS; a++) {
                 for (int b = a + 1; b < FREE_SETS; b++) {
                     for (int c = b + 1; c < FREE_SETS; c++) {
@@ -1018,6 +1048,16 @@ public final class JointWorks {
                 twiceLeast[set] = 2 * venture.worthOf(set & all);
                 twiceMost[set] = twiceAll - 2 * venture.worthOf(all & ~set);
             }
+        }
+
+        /** Whether no set's least is above its most: else a look at the corners is spared. */
+        private boolean haveEndsRoom() {
+            for (int set = 1; set < FREE_SETS; set++) {
+                if (twiceLeast[set] > twiceMost[set]) {
+                    return false;
+                }
+            }
+            return true;
         }
 
         private void meet(int a, int b, int c) {
@@ -1071,16 +1111,16 @@ public final class JointWorks {
         }
 
         private boolean isPointInside() {
-            for (int set = 1; set < FREE_SETS; set++) {
-                int together = 0;
-                for (int k = 0; k < FREE_PARTNERS; k++) {
-                    together += bit(set, k) * point[k];
-                }
-                if (together < twiceLeast[set] || together > twiceMost[set]) {
-                    return false;
-                }
-            }
-            return true;
+            int x = point[0];
+            int y = point[1];
+            int z = point[2];
+            return mayGet(1, x) && mayGet(2, y) && mayGet(3, x + y) && mayGet(4, z)
+                    && mayGet(5, x + z) && mayGet(6, y + z) && mayGet(7, x + y + z);
+        }
+
+        private boolean mayGet(int set, int twice) {
+            return set >= 0 && set < FREE_SETS && twice >= twiceLeast[set]
+                    && twice <= twiceMost[set];
         }
 
         /** Puts the point at its place in the order of corners, unless it stands there. */
@@ -1132,7 +1172,7 @@ public final class JointWorks {
             }
             if (venture.n > 1) {
                 long weights = venture.barWeights();
-                appendFraction(venture.excessAbove(weights), venture.weightSum(weights));
+                appendFraction(venture.excessAbove(weights), weightSum(weights));
             }
         }
 
